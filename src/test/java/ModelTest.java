@@ -1,0 +1,220 @@
+import java.util.ArrayList;
+import java.util.List;
+import java.util.Random;
+import java.util.TreeMap;
+
+/** Runs of calls, drawn with fixed seeds, on the class and on the model: all answers must be the same. */
+public final class ModelTest {
+    private static final int RUNS = 3000;
+    private static final int CALLS = 512;
+    private static final String[] WORDS = {"a", "b", "ox", "raw", "abcdefg", "abcdefgh", "Tea"};
+    private static final String SIGNS = "-.;0123456789abzAZ";
+
+    private final Random random;
+    private final GoodsTree tree = new GoodsTree();
+    private final Model model = new Model();
+    private final List<Long> codes = new ArrayList<>(List.of(101L, 102L, 10101L, 0L));
+    private final String run;
+    private int calls = 0;
+
+    private ModelTest(int seed) {
+        random = new Random(seed);
+        run = "run " + seed + " ";
+    }
+
+    public static void main(String[] args) {
+        TreeMap<Integer, Integer> failures = new TreeMap<>();
+        for (int seed = 0; seed < RUNS; seed++) {
+            new ModelTest(seed).go(failures);
+        }
+        System.out.println("readings by failure: " + failures);
+        Check.due("kinds of readings met", "[0, 1, 2, 3, 4, 5]", failures.keySet());
+        Check.end();
+    }
+
+    private void go(TreeMap<Integer, Integer> failures) {
+        read(failures);
+        while (calls < CALLS) {
+            int draw = random.nextInt(40);
+            if (draw == 0) {
+                read(failures);
+            } else if (draw < 3) {
+                search();
+            } else if (draw < 6) {
+                changeEdition();
+            } else if (draw < 13) {
+                noteOrNoted();
+            } else if (draw < 30) {
+                linkOrLinked();
+            } else {
+                look();
+            }
+        }
+    }
+
+    private void same(String call, String want, String got) {
+        calls++;
+        Check.due(run + call, want, got);
+    }
+
+    private void type(String text) {
+        for (char c : text.toCharArray()) {
+            same("sign " + c, "" + model.sign(c), "" + tree.sign(c));
+        }
+    }
+
+    private void read(TreeMap<Integer, Integer> failures) {
+        String text = spoilt(nomenclature());
+        type(text);
+        same("read " + text, Check.told(model::read), Check.told(tree::read));
+        sameFailure(text);
+        failures.merge(model.failure(0), 1, Integer::sum);
+    }
+
+    private void search() {
+        StringBuilder asked = new StringBuilder(word());
+        for (int i = random.nextInt(7); i > 0; i--) {
+            asked.append('.').append(word());
+        }
+        String text = random.nextInt(4) == 0 ? spoilt(asked.toString()) : asked.toString();
+        type(text);
+        same("search " + text, Check.told(model::search), Check.told(tree::search));
+        sameFailure(text);
+        for (int i = 0; i < Math.min(5, model.count(4)) + 1; i++) {
+            int k = i;
+            same("found " + i, Check.told(() -> model.found(k, 0)), Check.told(() -> tree.found(k, 0)));
+            same("points " + i, Check.told(() -> model.found(k, 1)), Check.told(() -> tree.found(k, 1)));
+        }
+    }
+
+    private void sameFailure(String text) {
+        same("failure of " + text, "" + model.failure(0), "" + tree.failure(0));
+        same("place of " + text, "" + model.failure(1), "" + tree.failure(1));
+    }
+
+    private void changeEdition() {
+        int e = small(3);
+        same("edition " + e, "" + model.edition(e), "" + tree.edition(e));
+    }
+
+    private void noteOrNoted() {
+        long code = code();
+        long other = code();
+        int kind = small(2);
+        if (random.nextBoolean()) {
+            same("note " + code + " " + kind + " " + other,
+                    Check.told(() -> model.note(code, kind, other)), Check.told(() -> tree.note(code, kind, other)));
+        } else {
+            same("noted " + code + " " + kind,
+                    Check.told(() -> model.noted(code, kind)), Check.told(() -> tree.noted(code, kind)));
+        }
+    }
+
+    private void linkOrLinked() {
+        int from = small(3);
+        int to = small(3);
+        long code = code();
+        long other = code();
+        int i = small(3);
+        String told = from + " " + code + " " + to;
+        switch (random.nextInt(6)) {
+            case 0:
+                same("became " + told,
+                        Check.told(() -> model.became(from, code, to)), Check.told(() -> tree.became(from, code, to)));
+                break;
+            case 1:
+                same("linked " + told + " " + i, Check.told(() -> model.linked(from, code, to, i)),
+                        Check.told(() -> tree.linked(from, code, to, i)));
+                break;
+            case 2:
+                same("lost " + from + " " + to,
+                        Check.told(() -> model.lost(from, to)), Check.told(() -> tree.lost(from, to)));
+                break;
+            default:
+                same("link " + told + " " + other,
+                        "" + model.link(from, code, to, other), "" + tree.link(from, code, to, other));
+        }
+    }
+
+    private void look() {
+        int i = random.nextInt(42) - 1;
+        int what = small(5);
+        long code = code();
+        switch (random.nextInt(3)) {
+            case 0:
+                same("row " + i + " " + what, Check.told(() -> model.row(i, what)), Check.told(() -> tree.row(i, what)));
+                break;
+            case 1:
+                same("find " + code, "" + model.find(code), "" + tree.find(code));
+                break;
+            default:
+                int all = random.nextInt(26) - 1;
+                same("count " + all, "" + model.count(all), "" + tree.count(all));
+        }
+    }
+
+    private int small(int beyond) {
+        return random.nextInt(12) == 0 ? random.nextInt(beyond + 2) - 1 : random.nextInt(beyond);
+    }
+
+    private long code() {
+        return codes.get(random.nextInt(codes.size()));
+    }
+
+    private String word() {
+        return WORDS[random.nextInt(WORDS.length)];
+    }
+
+    private String nomenclature() {
+        int most = random.nextInt(8) == 0 ? 45 : random.nextInt(10) + 1;
+        StringBuilder text = new StringBuilder();
+        String[] path = new String[5];
+        int depth = -1;
+        for (int i = 0; i < most; i++) {
+            int dashes = most > 40 ? i % 2 : random.nextInt(Math.min(depth + 1, 4) + 1);
+            String upper = dashes == 0 ? "" : path[dashes - 1];
+            boolean again = dashes <= depth;
+            String last = again ? path[dashes].substring(upper.length(), upper.length() + 2) : "00";
+            int next = Integer.parseInt(last) + 1 + random.nextInt(most > 40 ? 1 : 3);
+            String code = upper + (next < 10 ? "0" : "") + next;
+            path[dashes] = code;
+            depth = dashes;
+            codes.add(Long.parseLong("1" + code));
+            text.append("-".repeat(dashes)).append(code).append(most > 40 ? "b" : word());
+            for (int k = most > 40 ? 0 : random.nextInt(4); k > 0; k--) {
+                text.append('.').append(word());
+            }
+            text.append(';');
+        }
+        return text.toString();
+    }
+
+    /** Some texts stay right; in the others signs are put in, taken out, changed, doubled or cut off. */
+    private String spoilt(String text) {
+        StringBuilder b = new StringBuilder(text);
+        for (int i = random.nextInt(3) * random.nextInt(2); i > 0 && b.length() > 0; i--) {
+            int at = random.nextInt(b.length());
+            char sign = SIGNS.charAt(random.nextInt(SIGNS.length()));
+            switch (random.nextInt(6)) {
+                case 0:
+                    b.insert(at, sign);
+                    break;
+                case 1:
+                    b.deleteCharAt(at);
+                    break;
+                case 2:
+                    b.setCharAt(at, sign);
+                    break;
+                case 3:
+                    b.insert(at, b.charAt(at));
+                    break;
+                case 4:
+                    b.insert(at, b.substring(at, Math.min(b.length(), at + 2)));
+                    break;
+                default:
+                    b.setLength(at);
+            }
+        }
+        return b.toString();
+    }
+}
