@@ -10,7 +10,7 @@ public final class GoodsTree {
     private static final int MAX_ROWS = 40;
     private static final int MAX_DASHES = 4;
     private static final int MAX_DIGITS = 10;
-    private static final int CHAPTER_DIGITS = 2;
+    private static final int MIN_DIGITS = 2;
     private static final int MAX_LETTERS = 8;
     private static final int MAX_ROW_WORDS = 4;
     private static final int MAX_ASKED_WORDS = 6;
@@ -572,7 +572,7 @@ public final class GoodsTree {
                 digits++;
                 place++;
             }
-            boolean right = digits >= CHAPTER_DIGITS && digits % 2 == 0 && !isDigit(here());
+            boolean right = digits >= MIN_DIGITS && digits % 2 == 0 && !isDigit(here());
             return right ? code : 0;
         }
 

@@ -276,6 +276,17 @@ public final class PromisesTest {
         due("failure", 1, () -> x.failure(0));
         type(x, "01a;").read();
         due("none behind a right one", 0, () -> x.failure(0));
+        type(x, "01a;--");
+        due("too many dashes", STATE, x::read);
+        type(x, "01a;-");
+        due("a dash of an earlier text is none", STATE, x::read);
+        due("too early an end", 1, () -> x.failure(0));
+        due("at the length", 5, () -> x.failure(1));
+        type(x, "01a;").read();
+        type(x, "01a");
+        due("a ; of an earlier text is none", STATE, x::read);
+        due("at the length", 3, () -> x.failure(1));
+        type(x, "01a;").read();
         due("no place behind a right one", -1, () -> x.failure(1));
         type(x, "-");
         due("search of a dash", STATE, x::search);
@@ -475,6 +486,23 @@ public final class PromisesTest {
         due("1 to 2", 0, () -> x.became(1, 101, 2));
         due("2 to 0 stays", 102, () -> x.linked(2, 101, 0, 0));
         due("0 to 2 stays", 10201, () -> x.linked(0, 102, 2, 0));
+        x.edition(2);
+        type(x, GOODS).read();
+        due("the rest goes with edition 2", 0, () -> x.count(3));
+        x.link(0, 101, 2, 102);
+        due("gone ones are no others", 1, () -> x.became(0, 101, 2));
+        x.link(0, 102, 1, 102);
+        type(x, GOODS).read();
+        due("the first goes alone", 1, () -> x.count(3));
+        due("the second stays", 1, () -> x.became(0, 102, 1));
+        x.link(2, 102, 1, 102);
+        type(x, GOODS).read();
+        due("the last goes alone", 1, () -> x.count(3));
+        x.link(2, 101, 1, 101);
+        x.edition(0);
+        type(x, GOODS).read();
+        due("the first one from it goes alone", 1, () -> x.count(3));
+        due("that of the others stays", 1, () -> x.became(2, 101, 1));
     }
 
     private static void becoming() {
@@ -511,6 +539,12 @@ public final class PromisesTest {
         due("the third", 101, () -> x.linked(0, 101, 1, 2));
         due("back", 10201, () -> x.linked(1, 101, 0, 0));
         due("to a third edition", 0, () -> x.linked(0, 101, 2, 0));
+        x.edition(2);
+        type(x, GOODS).read();
+        x.link(1, 102, 2, 102);
+        x.link(1, 102, 0, 101);
+        due("one to edition 2 is none to edition 0", 101, () -> x.linked(1, 102, 0, 0));
+        due("and one alone", 1, () -> x.became(1, 102, 0));
         for (int bad : new int[] {-1, 3, 60, MIN, MAX}) {
             due("linked at " + bad, 0, () -> x.linked(0, 101, 1, bad));
         }
@@ -578,6 +612,19 @@ public final class PromisesTest {
         searches(x, "abcdefgh", 101, 4);
         searches(x, "abcdefg", 102, 4);
         searches(x, "b", 101, 4, 102, 4, 103, 4);
+        type(x, "01z;02ab.aab;").read();
+        searches(x, "b");
+        searches(x, "ba");
+        searches(x, "aba");
+        searches(x, "aab", 102, 4);
+        type(x, "01a.b.c.d;02e;").read();
+        searches(x, "e", 102, 4);
+        type(x, "01x;").read();
+        type(x, "01a;").read();
+        searches(x, "b");
+        type(x, chapters(39) + "99a.b.c.d;").read();
+        searches(x, "d", 199, 4);
+        searches(x, "z");
     }
 
     private static void searchHalves() {
