@@ -2,9 +2,19 @@ import java.util.function.LongSupplier;
 
 /** Compares answers with those that are due; an exception is an answer of its own. */
 final class Check {
+    static final String INDEX = "IndexOutOfBoundsException";
+    static final String ARGUMENT = "IllegalArgumentException";
+    static final String STATE = "IllegalStateException";
+
+    private static String about = "";
     private static int wrong = 0;
 
     private Check() {
+    }
+
+    /** What the next comparisons are about; it is told ahead of each that is not as due. */
+    static void within(String what) {
+        about = what;
     }
 
     static String told(LongSupplier call) {
@@ -19,7 +29,7 @@ final class Check {
         if (!String.valueOf(want).equals(String.valueOf(got))) {
             wrong++;
             if (wrong <= 50) {
-                System.out.println(what + ": answered " + got + ", due is " + want);
+                System.out.println(about + what + ": answered " + got + ", due is " + want);
             }
         }
     }

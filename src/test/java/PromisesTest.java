@@ -2,14 +2,15 @@ import java.util.function.LongSupplier;
 
 /** Each promise of the document by hand: ordinary inputs, the named edges and wrong inputs. */
 public final class PromisesTest {
-    private static final String INDEX = "IndexOutOfBoundsException";
-    private static final String ARGUMENT = "IllegalArgumentException";
-    private static final String STATE = "IllegalStateException";
+    private static final String INDEX = Check.INDEX;
+    private static final String ARGUMENT = Check.ARGUMENT;
+    private static final String STATE = Check.STATE;
     private static final int MIN = Integer.MIN_VALUE;
     private static final int MAX = Integer.MAX_VALUE;
     private static final String GOODS =
             "01animals;-0101horses.live;--010121pure;---01012110old;----0101211005grey.old;"
             + "--010129other;-0102cattle.live;02meat;-0201beef;";
+    private static final String FEW = "01a;02b;-0201c;";
 
     private PromisesTest() {
     }
@@ -39,6 +40,7 @@ public final class PromisesTest {
         linkedCodes();
         losing();
         searching();
+        searchingWords();
         searchHalves();
         searchFailures();
         foundRows();
@@ -463,14 +465,16 @@ public final class PromisesTest {
         }
         due("61st", false, x.link(0, 10201, 1, 10201));
         due("60 in all", 60, () -> x.count(3));
-        type(x, GOODS).read();
-        due("room again", true, x.link(0, 10201, 1, 10201));
+        type(x, "01a;02b;").read();
+        due("room again", true, x.link(0, 101, 1, 10201));
     }
 
     private static void linksGo() {
-        GoodsTree x = twoEditions();
-        x.edition(2);
-        type(x, GOODS).read();
+        GoodsTree x = new GoodsTree();
+        for (int e = 2; e >= 0; e--) {
+            x.edition(e);
+            type(x, FEW).read();
+        }
         x.link(0, 101, 1, 101);
         x.link(1, 101, 0, 102);
         x.link(1, 101, 2, 102);
@@ -487,20 +491,20 @@ public final class PromisesTest {
         due("2 to 0 stays", 102, () -> x.linked(2, 101, 0, 0));
         due("0 to 2 stays", 10201, () -> x.linked(0, 102, 2, 0));
         x.edition(2);
-        type(x, GOODS).read();
+        type(x, FEW).read();
         due("the rest goes with edition 2", 0, () -> x.count(3));
         x.link(0, 101, 2, 102);
         due("gone ones are no others", 1, () -> x.became(0, 101, 2));
         x.link(0, 102, 1, 102);
-        type(x, GOODS).read();
+        type(x, FEW).read();
         due("the first goes alone", 1, () -> x.count(3));
         due("the second stays", 1, () -> x.became(0, 102, 1));
         x.link(2, 102, 1, 102);
-        type(x, GOODS).read();
+        type(x, FEW).read();
         due("the last goes alone", 1, () -> x.count(3));
         x.link(2, 101, 1, 101);
         x.edition(0);
-        type(x, GOODS).read();
+        type(x, FEW).read();
         due("the first one from it goes alone", 1, () -> x.count(3));
         due("that of the others stays", 1, () -> x.became(2, 101, 1));
     }
@@ -608,7 +612,11 @@ public final class PromisesTest {
         searches(x, "live.old.grey", 10101211005L, 10, 101012110, 6, 10101, 4, 10102, 4, 1010121, 2, 1010129, 2);
         x.edition(1);
         searches(x, "beef");
-        type(x, "01abcdefgh.b;02abcdefg.b;03b.b;").read();
+    }
+
+    private static void searchingWords() {
+        GoodsTree x = type(new GoodsTree(), "01abcdefgh.b;02abcdefg.b;03b.b;");
+        due("read words", 3, x::read);
         searches(x, "abcdefgh", 101, 4);
         searches(x, "abcdefg", 102, 4);
         searches(x, "b", 101, 4, 102, 4, 103, 4);
