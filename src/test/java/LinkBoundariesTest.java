@@ -170,6 +170,25 @@ public final class LinkBoundariesTest {
     }
 
     @Says(where = "Terms, LINKS", words = "They go when one of their editions is read anew.")
+    static void otherLinksKeepTheirOrder() {
+        Goods x = fours();
+        addLink(x, 2, 101, 0, 101);
+        addLink(x, 0, 101, 1, 104);
+        addLink(x, 0, 101, 2, 101);
+        addLink(x, 1, 101, 2, 101);
+        addLink(x, 0, 101, 1, 102);
+        addLink(x, 0, 101, 1, 103);
+        addLink(x, 2, 101, 1, 101);
+        x.go(2).rows("01a;");
+        x.due(3, x.count(3));
+        x.due(104, x.linked(0, 101, 1, 0));
+        x.due(102, x.linked(0, 101, 1, 1));
+        x.due(103, x.linked(0, 101, 1, 2));
+        x.due(0, x.linked(0, 101, 1, 3));
+        x.due(2, x.became(0, 101, 1));
+    }
+
+    @Says(where = "Terms, LINKS", words = "They go when one of their editions is read anew.")
     static void linksStayWhenAReadingFails() {
         Goods x = fours();
         addLink(x, 0, 101, 1, 102);
@@ -191,7 +210,8 @@ public final class LinkBoundariesTest {
         x.due(0, x.became(0, 101, 1));
     }
 
-    @Says(where = "Terms, OF A CODE", words = "1 ONE TO ONE: one link, and the other one has no other from the first edition;")
+    @Says(where = "Terms, OF A CODE",
+            words = "1 ONE TO ONE: one link, and the other one has no other from the first edition;")
     static void becameOne() {
         Goods x = fours();
         addLink(x, 0, 101, 1, 102);
@@ -280,7 +300,8 @@ public final class LinkBoundariesTest {
         x.due(0, x.became(0, 101, 1));
     }
 
-    @Says(where = "Promise 12", words = "The i-th code that a code of an edition became in another one, as the links were told;")
+    @Says(where = "Promise 12",
+            words = "The i-th code that a code of an edition became in another one, as the links were told;")
     static void linkedInTheOrderTold() {
         Goods x = fours();
         addLink(x, 0, 101, 1, 104);
@@ -338,7 +359,8 @@ public final class LinkBoundariesTest {
         x.due(0, x.linked(1, 105, 0, 0));
     }
 
-    @Says(where = "Promise 13", words = "How many codes of an edition without rows below them have no link to another one.")
+    @Says(where = "Promise 13",
+            words = "How many codes of an edition without rows below them have no link to another one.")
     static void lostCodesHaveNoRowsBelow() {
         Goods x = Goods.of(TREE, TREE, TREE).go(1);
         x.due(3, x.lost(0, 1));

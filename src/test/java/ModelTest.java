@@ -132,7 +132,8 @@ public final class ModelTest {
                         () -> model.became(from, code, to), () -> tree.became(from, code, to));
                 break;
             case 1:
-                sameLong("linked " + told + " " + i, () -> model.linked(from, code, to, i), () -> tree.linked(from, code, to, i));
+                sameLong("linked " + told + " " + i,
+                        () -> model.linked(from, code, to, i), () -> tree.linked(from, code, to, i));
                 break;
             case 2:
                 sameLong("lost " + from + " " + to,
@@ -197,8 +198,23 @@ public final class ModelTest {
         return text.toString();
     }
 
-    /** Some texts stay right; in the others signs are put in, taken out, changed, doubled or cut off. */
+    /** Some texts stay right; in some two rows change places or a row gets a dash; others are spoilt sign by sign. */
     private String spoilt(String text) {
+        int draw = random.nextInt(10);
+        String[] rows = text.split("(?<=;)");
+        int one = random.nextInt(rows.length);
+        int two = random.nextInt(rows.length);
+        if (draw == 0) {
+            rows[one] = "-".repeat(1 + random.nextInt(2)) + rows[one];
+        } else if (draw == 1) {
+            String row = rows[one];
+            rows[one] = rows[two];
+            rows[two] = row;
+        }
+        return draw < 2 ? String.join("", rows) : spoiltSigns(text);
+    }
+
+    private String spoiltSigns(String text) {
         StringBuilder b = new StringBuilder(text);
         for (int i = random.nextInt(3) * random.nextInt(2); i > 0 && b.length() > 0; i--) {
             int at = random.nextInt(b.length());

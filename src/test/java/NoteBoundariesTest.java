@@ -154,6 +154,24 @@ public final class NoteBoundariesTest {
     }
 
     @Says(where = "Terms, NOTES", words = "They go when the edition is read anew.")
+    static void otherNotesKeepTheirOrder() {
+        Goods x = Goods.of(FIVE, FIVE, FIVE);
+        x.go(2).due(1, x.note(101, 0, 102));
+        x.go(1).due(1, x.note(101, 0, 104));
+        x.go(2).due(2, x.note(101, 0, 103));
+        x.due(3, x.note(101, 0, 104));
+        x.go(1).due(2, x.note(101, 1, 102));
+        x.due(3, x.note(101, 0, 103));
+        x.go(2).rows(FIVE);
+        x.due(3, x.count(2));
+        x.go(1);
+        x.due(6, x.noted(101, 0));
+        x.due(3, x.noted(101, 1));
+        x.due(4, x.noted(101, 2));
+        x.due(-1, x.noted(101, 3));
+    }
+
+    @Says(where = "Terms, NOTES", words = "They go when the edition is read anew.")
     static void roomAgainWhenNotesGo() {
         Goods x = Goods.of(FIVE, FIVE, FIVE);
         addNotes(x, 19);
@@ -176,7 +194,8 @@ public final class NoteBoundariesTest {
         x.due(2, x.noted(101, 0));
     }
 
-    @Says(where = "Promise 9", words = "The i-th NOTE of a code in the present edition: twice its row of the other code and the kind;")
+    @Says(where = "Promise 9",
+            words = "The i-th NOTE of a code in the present edition: twice its row of the other code and the kind;")
     static void notesOfFirstAndLastRow() {
         Goods x = Goods.of(FIVE, FIVE, FIVE);
         x.note(102, 0, 101);

@@ -107,6 +107,17 @@ public final class ReadBoundariesTest {
         fails("01a.b.c.;", 1, 8);
     }
 
+    @Says(where = "Terms, A ROW", words = "with a . between any two")
+    static void oneDotBetweenTwoWords() {
+        Goods x = reads("01abcd.efgh;", 1);
+        x.due(2, x.row(0, 2));
+        fails("01.a;", 1, 2);
+        fails("01a..b;", 1, 4);
+        fails("01a.b.;", 1, 6);
+        fails("01a-b;", 1, 3);
+        fails("01a;b;", 1, 4);
+    }
+
     @Says(where = "Terms, A ROW", words = "a ; at its end.")
     static void oneSemicolonAtTheEnd() {
         fails("01a", 1, 3);
@@ -137,6 +148,22 @@ public final class ReadBoundariesTest {
         x.due(0, x.row(0, 4));
         x.due(Check.INDEX, x.row(1, 0));
         x.due(-1, x.find(101));
+    }
+
+    @Says(where = "Terms, READ", words = "in place of what it had")
+    static void nothingStaysOfSeveralReadings() {
+        Goods x = new Goods();
+        for (int i = 0; i < 4; i++) {
+            x.rows("01a.b;-0101b;-0102c;02d;").rows("05a;-0501a.b;");
+            x.type("01a;-0101a;02a;03a;-");
+            x.due(Check.STATE, x.read());
+            x.rows("06a;");
+            x.due(1, x.count(10));
+            x.due(1, x.count(20));
+            x.due(0, x.row(0, 4));
+            x.due(1, x.row(0, 2));
+            x.due(0, x.row(0, 3));
+        }
     }
 
     @Says(where = "Terms, READ", words = "if all is right.")
@@ -382,9 +409,24 @@ public final class ReadBoundariesTest {
     }
 
     @Says(where = "Terms, FAILURES", words = "2 more dashes than the row ahead and one")
+    static void moreDashesThanARowMayHaveAtAll() {
+        // The fifth dash can't stand either, but the row's first sign is the first place.
+        fails("01a;-0101a;--010101a;---01010101a;-----0101010101a;", 2, 34);
+        fails(CHAIN + "------0101010102a;", 2, 50);
+        fails(CHAIN + "------", 2, 50);
+    }
+
+    @Says(where = "Terms, FAILURES", words = "2 more dashes than the row ahead and one")
     static void itIsTheRowAheadThatCounts() {
         fails("01a;-0101a;02a;--0201a;", 2, 15);
         fails(CHAIN + "-0102a;---01020101a;", 2, 57);
+    }
+
+    @Says(where = "Terms, FAILURES", words = "at the row's first sign; 3")
+    static void twoIsAtTheFirstSign() {
+        fails("01a;---0101a;", 2, 4);
+        fails("01a;-0101a;----01010101a;", 2, 11);
+        fails("01a;02a;03a;--0301a;", 2, 12);
     }
 
     @Says(where = "Terms, FAILURES", words = "(the first row: any)")
@@ -440,6 +482,13 @@ public final class ReadBoundariesTest {
         fails("01a;-0101a;--010102a;--010101a;", 4, 23);
         fails("01a;-0102a;--010201a;-0101a;", 4, 22);
         reads("01a;-0102a;--010299a;-0103a;02a;", 5);
+    }
+
+    @Says(where = "Terms, FAILURES", words = "comes behind it), at its first digit")
+    static void fourIsAtTheFirstDigit() {
+        fails("02a;03a;01a;", 4, 8);
+        fails("02a;-0202a;-0201a;", 4, 12);
+        fails(CHAIN.replace("0101010101a", "0101010102a") + "----0101010101a;", 4, 54);
     }
 
     @Says(where = "Terms, FAILURES", words = "4 a code that does not come behind that of the row ahead")

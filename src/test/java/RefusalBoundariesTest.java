@@ -13,7 +13,7 @@ public final class RefusalBoundariesTest {
         Sentences.run(RefusalBoundariesTest.class);
     }
 
-    /** One with something of each kind: rows, notes, links, rows found, a failure, a text; edition 1 is the present one. */
+    /** One with rows, notes, links, rows found, a failure and a text; edition 1 is the present one. */
     private static Goods busy() {
         Goods x = Goods.of(ROWS, ROWS, "01a;");
         x.note(101, 1, 10101);

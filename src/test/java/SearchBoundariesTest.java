@@ -147,6 +147,39 @@ public final class SearchBoundariesTest {
         finds(x, "a", 101, 4, 102, 4, 103, 4);
     }
 
+    @Says(where = "Terms, SEARCH", words = "4 if the row has it")
+    static void wordsOfAnEarlierReadingAreNone() {
+        Goods x = Goods.of("01a.b.c.d;-0101e;").rows("01a;-0101f.g;");
+        finds(x, "b");
+        finds(x, "e");
+        finds(x, "g", 10101, 4);
+    }
+
+    @Says(where = "Terms, SEARCH", words = "4 if the row has it")
+    static void wordsAreWholeWords() {
+        Goods x = Goods.of("01ab.aab;02z.zz;03a.zzzzzzzz;");
+        finds(x, "b");
+        finds(x, "ba");
+        finds(x, "aab", 101, 4);
+        finds(x, "a", 103, 4);
+        finds(x, "z", 102, 4);
+        finds(x, "zzz");
+        finds(x, "zzzzzzzz", 103, 4);
+        finds(x, "zzzzzzza");
+        finds(x, "azzzzzzz");
+    }
+
+    @Says(where = "Terms, SEARCH", words = "4 if the row has it")
+    static void fourthWordOfTheFortiethRow() {
+        StringBuilder text = new StringBuilder();
+        for (int i = 10; i < 49; i++) {
+            text.append(i).append("x;");
+        }
+        Goods x = Goods.of(text + "99a.b.c.d;");
+        finds(x, "a", 199, 4);
+        finds(x, "d", 199, 4);
+    }
+
     @Says(where = "Terms, SEARCH", words = "else 2 if the row which it is below has it")
     static void wordThatTheRowAboveHasToo() {
         Goods x = Goods.of("01a;-0101a;--010101b;");
@@ -273,6 +306,19 @@ public final class SearchBoundariesTest {
         x.due(8, x.found(0, 1));
         x.due(101, x.found(1, 0));
         x.due(Check.INDEX, x.found(2, 0));
+    }
+
+    @Says(where = "Promise 15", words = "what 0: CODE, 1: POINTS.")
+    static void codeAndPointsOfFound() {
+        Goods x = Goods.of("00a;-0000000000b;99b.a;-9999999999a;").search("b.a.b.a.b.a");
+        x.due(199, x.found(0, 0));
+        x.due(24, x.found(0, 1));
+        x.due(10000000000L, x.found(1, 0));
+        x.due(18, x.found(1, 1));
+        x.due(19999999999L, x.found(2, 0));
+        x.due(18, x.found(2, 1));
+        x.due(100, x.found(3, 0));
+        x.due(12, x.found(3, 1));
     }
 
     @Says(where = "Promise 15", words = "IndexOutOfBoundsException if there is none such")

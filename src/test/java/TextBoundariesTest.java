@@ -50,6 +50,21 @@ public final class TextBoundariesTest {
         x.due(Check.INDEX, x.found(0, 1));
     }
 
+    @Says(where = "Promise 1", words = "No text; editions without rows.")
+    static void newObjectHasNothingOfAnother() {
+        Goods x = Goods.of("01a;02b;").search("a").type("01");
+        x.due(1, x.note(101, 0, 102));
+        Goods y = new Goods();
+        for (int what : new int[] {0, 1, 2, 3, 4, 10, 11, 12, 20, 21, 22}) {
+            y.due(0, y.count(what));
+        }
+        y.type("0");
+        x.due(2, x.count(0));
+        x.due(2, x.count(10));
+        x.due(1, x.count(2));
+        x.due(1, x.count(4));
+    }
+
     @Says(where = "Terms, THE TEXT", words = "THE TEXT (400 signs at most)")
     static void textTakesFourHundredSigns() {
         Goods x = new Goods();
@@ -112,7 +127,8 @@ public final class TextBoundariesTest {
 
     @Says(where = "Promise 2", words = "false if it can't be,")
     static void signsThatCanNotBe() {
-        for (char c : "\0\t\n !\"#$%&'()*+,/:<=>?@[\\]^_`{|}~\u007f\u0080\u00aa\u00ad\u00e4\u00ff\u0130\uff10".toCharArray()) {
+        String none = "\0\t\n !\"#$%&'()*+,/:<=>?@[\\]^_`{|}~\u007f\u0080\u00aa\u00ad\u00e4\u00ff\u0130\uff10";
+        for (char c : none.toCharArray()) {
             Goods x = new Goods().type("a");
             x.due(false, x.sign(c));
             x.due(1, x.count(0));

@@ -81,6 +81,17 @@ public final class TreeBoundariesTest {
         x.due(102, x.row(4, 0));
     }
 
+    @Says(where = "Promise 6", words = "what 0: its CODE, 1: dashes, 2: words")
+    static void codeDashesAndWordsOfARow() {
+        Goods x = Goods.of(GOODS);
+        x.due(10102, x.row(3, 0));
+        x.due(1, x.row(3, 1));
+        x.due(2, x.row(3, 2));
+        x.due(1010101, x.row(2, 0));
+        x.due(2, x.row(2, 1));
+        x.due(1, x.row(2, 2));
+    }
+
     @Says(where = "Promise 6", words = "IndexOutOfBoundsException if there is no such row")
     static void noSuchRow() {
         Goods x = Goods.of(GOODS);
@@ -165,6 +176,15 @@ public final class TreeBoundariesTest {
         x.due(1, x.count(0));
         x.sign(' ');
         x.due(1, x.count(0));
+    }
+
+    @Says(where = "Promise 16", words = "1: the present edition")
+    static void countOfThePresentEdition() {
+        Goods x = new Goods();
+        x.due(0, x.count(1));
+        x.go(2).due(2, x.count(1));
+        x.go(1).due(1, x.count(1));
+        x.rows("01a;").due(1, x.count(1));
     }
 
     @Says(where = "Promise 16", words = "from 10 on rows of edition what - 10")
